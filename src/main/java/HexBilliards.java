@@ -466,10 +466,9 @@ public final class HexBilliards {
         }
 
         void turnOnIfOpen() {
-            int before = direction;
-            direction = Felt.turned(before, 1);
-            if (cellAhead() == NONE) {
-                direction = before;
+            int next = Felt.turned(direction, 1);
+            if (Felt.cellAt(q + Felt.stepQ(next), r + Felt.stepR(next)) != NONE) {
+                direction = next;
             }
         }
 
