@@ -26,6 +26,10 @@ public final class Check {
         return wrong;
     }
 
+    public static int checks() {
+        return checks;
+    }
+
     /** A check that was never reached is a fault of the test, so none at all counts as one. */
     public static void end(String test) {
         System.out.println(test + ": " + checks + " checks, " + wrong + " wrong");
