@@ -114,33 +114,44 @@ public final class HistoryBoundaries {
 
     @Sentence(of = "HISTORY", says = "A state is everything but the text, the history and the snapshot.")
     static void whatAStateIs() {
-        HexBilliards x = Table.withAllBalls();
-        x.takeOff(11);
-        x.move(10, 30);
-        x.set(0, 91);
-        x.set(1, 81);
-        x.set(2, 71);
-        x.setPots(62);
-        x.shoot(0, 10, 0, 30, 2);
+        HexBilliards x = new HexBilliards();
+        x.put(Table.at(3, 0), 20);
+        x.put(Table.at(4, -2), 1);
+        x.put(Table.at(3, -2), 1);
         List<Integer> before = Look.atState(x);
         x.keep();
         x.type('1');
-        x.shoot(x.count(2), 10, 3, 90, 1);
-        x.setPots(0);
-        x.pass(x.count(2));
+        aPotAHitAndABank(x);
+        x.setPots(5);
         x.set(0, 50);
-        Check.holds("something is changed", !Look.atState(x).equals(before));
+        Check.holds("much is changed", !Look.atState(x).equals(before));
         for (int i = 0; i < 4; i++) {
             x.undo();
         }
         Check.holds("all is back by undo()", Look.atState(x).equals(before));
         Check.due("but the text", x.count(15), 1);
-        x.takeOff(0);
-        x.set(2, 50);
-        Check.due("nor is the snapshot away", x.restore(), 11);
+        aPotAHitAndABank(x);
+        x.setPots(5);
+        x.set(0, 51);
+        x.set(1, 52);
+        x.set(2, 53);
+        x.put(60, 1);
+        x.takeOff(2);
+        Check.due("nor is the snapshot away", x.restore(), 3);
         Check.holds("all is back by restore()", Look.atState(x).equals(before));
-        Check.due("but the history", x.count(STATES), 3);
+        for (int ball = 0; ball < 3; ball++) {
+            Check.due("the ball on its cell", x.ofCell(x.ball(ball, 0), 2), ball);
+        }
+        Check.due("but the history", x.count(STATES), 4);
         Check.due("and the text", x.clearText(), 1);
+    }
+
+    /** Ball 0 is gone; ball 2 hits ball 1, which banks: 1.8 -> 1.26 -> 1.008 -> a step. */
+    private static void aPotAHitAndABank(HexBilliards x) {
+        Check.due("a pot", x.shoot(0, 0, 0, 10, 0), 20);
+        Check.due("a hit and a bank", x.shoot(0, 2, 0, 18, 0), 0);
+        Check.due("hits", x.count(9), 1);
+        Check.due("banks", x.count(8), 1);
     }
 
     // ---- ERRORS
@@ -372,7 +383,9 @@ public final class HistoryBoundaries {
         x.put(40, 1);
         Check.due("with fewer balls", x.restore(), 1);
         Check.due("ball 0 is gone in it", x.ball(0, 0), HexBilliards.UNKNOWN);
-        Check.due("keep() is no act", Table.withBall(0, 0).keep() + x.count(STATES), 5);
+        HexBilliards y = Table.withBall(0, 0);
+        y.keep();
+        Check.due("it is no act", y.count(STATES), 1);
     }
 
     @Sentence(of = "Promise 13", says = "Returns how many balls are on the felt.")

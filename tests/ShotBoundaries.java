@@ -272,7 +272,8 @@ public final class ShotBoundaries {
     }
 
     /**
-     * Spin 2 has 4 thirds at the second bank, so 1 is left and the third bank, at (0, -4), turns too.
+     * Spin 2 has 4 thirds at the second bank, so 1 is left and the third bank, at (0, -4), turns too;
+     * none is left then, and the fourth, at (4, -4), does not.
      * Spin 1 has just 3 at the third one, so none is left and the fourth, at (0, 4), does not.
      */
     @Sentence(of = "A SHOT", says = "they are less by 3 in any case")
@@ -283,6 +284,8 @@ public final class ShotBoundaries {
         Check.due("spin 2, steps", x.would(0, 0, 13, 2, STEPS), 13);
         Check.due("spin 2", x.would(0, 0, 13, 2, CELL), Table.at(1, -4));
         x.set(0, 99);
+        Check.due("spin 2, one bank more", x.would(0, 0, 12, 2, BANKS), 4);
+        Check.due("spin 2, not turned by it", x.would(0, 0, 12, 2, CELL), Table.at(1, -1));
         Check.due("spin 1, banks", x.would(0, 0, 13, 1, BANKS), 4);
         Check.due("spin 1, steps", x.would(0, 0, 13, 1, STEPS), 27);
         Check.due("spin 1", x.would(0, 0, 13, 1, CELL), Table.at(0, -3));
@@ -405,13 +408,24 @@ public final class ShotBoundaries {
             Check.due("spin " + spin + ", its steps", x.ball(1, 2), 9);
             Check.due("spin " + spin, x.ball(1, 0), Table.at(-2, 0));
         }
-        for (int d = 0; d < 6; d++) {
-            HexBilliards x = far(0, 0);
-            x.put(Table.besideMiddle(d), 1);
+        for (int cell = 0; cell <= 60; cell++) {
+            for (int d = 0; d < 6; d++) {
+                sameWithEachSpin(cell, d);
+            }
+        }
+    }
+
+    /** A shot that begins with a hit is the same with each spin, however often the other one banks. */
+    private static void sameWithEachSpin(int cell, int direction) {
+        HexBilliards x = far(0, 0);
+        x.move(0, cell);
+        if (x.would(0, direction, 10, 0, BANKS) == 0) {
+            x.put(x.would(0, direction, 10, 0, CELL), 1);
             for (int what = 0; what <= 5; what++) {
-                int without = x.would(0, d, 999, 0, what);
-                Check.due("far, spin 1, direction " + d, x.would(0, d, 999, 1, what), without);
-                Check.due("far, spin 2, direction " + d, x.would(0, d, 999, 2, what), without);
+                String shot = "from " + cell + ", direction " + direction + ", what " + what;
+                int without = x.would(0, direction, 50, 0, what);
+                Check.due(shot + ", spin 1", x.would(0, direction, 50, 1, what), without);
+                Check.due(shot + ", spin 2", x.would(0, direction, 50, 2, what), without);
             }
         }
     }

@@ -251,7 +251,7 @@ public final class TextBoundaries {
         Check.due("value", x.ball(0, 1), 2);
         Check.due("it is no act", x.count(14), 1);
         HexBilliards full = Table.withText(FULL_TEXT);
-        full.type('0');
+        full.type('x');
         Check.due("a refused one is not there", full.putAll(), 12);
         Check.due("the last character is as it was", full.ball(11, 1), 20);
     }

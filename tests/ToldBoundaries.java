@@ -420,6 +420,7 @@ public final class ToldBoundaries {
         }
         Check.due("at a wall, turned before it banks", x.along(Table.at(3, -2), 0, 1, true), Table.at(3, -2));
         Check.due("behind a bank at a wall", x.along(Table.at(3, -2), 0, 2, true), Table.at(3, -2));
+        Check.due("at a corner, turned before it banks", x.along(Table.at(3, 1), 1, 1, true), Table.at(3, 1));
         // To (4, 0), where q alone is out, and to (3, 0); back to (4, 0), where two are, and to (3, 0).
         Check.due("a way that does not go home", x.along(Table.at(3, 1), 1, 2, true), Table.at(3, 0));
     }
